@@ -19,6 +19,8 @@ public final class CharadePost {
     /** A habit is 10 A and B together, as habits(1) answers it. */
     private static final int HABIT_STEP = 10, FIRST_HABIT = 32;
     private static final int LOW_A = 2, HIGH_A = 5, LOW_B = 1, HIGH_B = 4;
+    /** Far above the 680 rows of 3 of the 15 signs. */
+    private static final int MOST_ROWS = 10000;
     private static final int FIRST_PRICE = 2, SIGNS_IF_NONE = 9, MINUTES_IF_NONE = 5, TENTHS = 10;
     private static final int HIGHEST_DRAW = 9999, LONGEST_SEASON = 60;
     private static final String AT_FIRST =
@@ -44,7 +46,7 @@ public final class CharadePost {
             letters[i] = AT_FIRST.charAt(i);
         }
         length = Math.min(AT_FIRST.length(), MOST_LETTERS);
-        layText();
+        lay();
         length = 0;
     }
 
@@ -73,7 +75,18 @@ public final class CharadePost {
     }
 
     public int lay() {
-        return layText();
+        int place = reader.firstFault(letters, length, draft, trial);
+        if (place != NONE || draft.words() < 1 || draft.actors() < 1) {
+            return NO;
+        }
+        Board old = board;
+        board = draft;
+        draft = old;
+        scene.copyFrom(trial);
+        past.clear();
+        kept.clear();
+        seen.clear();
+        return board.actors();
     }
 
     public int word(int w, int what) {
@@ -393,21 +406,6 @@ public final class CharadePost {
 
     private boolean isActor(int a) {
         return a >= 0 && a < board.actors();
-    }
-
-    private int layText() {
-        int place = reader.firstFault(letters, length, draft, trial);
-        if (place != NONE || draft.words() < 1 || draft.actors() < 1) {
-            return NO;
-        }
-        Board old = board;
-        board = draft;
-        draft = old;
-        scene.copyFrom(trial);
-        past.clear();
-        kept.clear();
-        seen.clear();
-        return board.actors();
     }
 
     private int showSign(Scene on, int a, int s) {
@@ -777,12 +775,14 @@ public final class CharadePost {
                 System.arraycopy(rows, SCENE_CELLS, rows, 0, (most - 1) * SCENE_CELLS);
                 used = most - 1;
             }
-            System.arraycopy(from.cells, 0, rows, used * SCENE_CELLS, SCENE_CELLS);
-            used++;
+            if (used >= 0) {
+                System.arraycopy(from.cells, 0, rows, used * SCENE_CELLS, SCENE_CELLS);
+                used++;
+            }
         }
 
         boolean takeInto(Scene to) {
-            if (used < 1) {
+            if (used < 1 || used > most) {
                 return false;
             }
             used--;
@@ -879,11 +879,12 @@ public final class CharadePost {
         private boolean readLikeness(Board board) {
             int bits = 0;
             for (int many = 0; many < MOST_WORDS && peek() != ';'; many++) {
-                int w = figure();
-                if (w == NONE || w >= board.words() || (bits >> w & 1) == 1) {
+                int w = peek() - '0';
+                if (w < 0 || w >= board.words() || (bits >> w & 1) == 1) {
                     return false;
                 }
                 bits |= 1 << w;
+                at++;
             }
             return bits != 0 && passes(';') && board.addLikeness(bits);
         }
@@ -938,24 +939,18 @@ public final class CharadePost {
 
         /** A number of one or two figures from low to high, or NONE. */
         private int number(int low, int high) {
-            int value = figure();
-            if (value == NONE) {
-                return NONE;
+            int value = 0;
+            int figures = 0;
+            while (figures < 2 && isFigure(peek())) {
+                value = 10 * value + peek() - '0';
+                figures++;
+                at++;
             }
-            int ones = figure();
-            if (ones != NONE) {
-                value = 10 * value + ones;
-            }
-            return value >= low && value <= high ? value : NONE;
+            return figures > 0 && value >= low && value <= high ? value : NONE;
         }
 
-        private int figure() {
-            int letter = peek();
-            if (letter < '0' || letter > '9') {
-                return NONE;
-            }
-            at++;
-            return letter - '0';
+        private static boolean isFigure(int letter) {
+            return letter >= '0' && letter <= '9';
         }
 
         private boolean passes(int letter) {
@@ -973,23 +968,27 @@ public final class CharadePost {
 
     /** FEWEST of one actor, for all words at once: rows of signs by length, then in order. */
     private static final class Search {
+        /** The signs that are not forbidden, and by what each of them multiplies each word. */
+        private final int[] free = new int[MOST_SIGNS];
         private final int[] factors = new int[MOST_SIGNS * MOST_WORDS];
         /** Weights besides none, one, two, three signs of the row that is tried. */
         private final int[] weights = new int[(LONGEST_ROW + 1) * MOST_WORDS];
+        /** The row that is tried: places in free. */
         private final int[] row = new int[LONGEST_ROW];
         private final int[] lengths = new int[MOST_WORDS];
         private final int[] signs = new int[MOST_WORDS * LONGEST_ROW];
         private int words;
-        private int signCount;
-        private int forbiddenBits;
+        private int freeCount;
         /** Words not yet found that have any weight: with none left, no row can find more. */
         private int open;
 
         void run(Board board, Scene on, int a) {
-            start(board, on, a);
+            weighAtFirst(board, on, a);
+            findFree(board, on.cell(a, KIND));
+            judge(0);
             int longest = Math.min(LONGEST_ROW, MOST_SHOWN - on.cell(a, SHOWN));
-            for (int length = 0; length <= longest; length++) {
-                tryRows(0, length, 0);
+            for (int length = 1; length <= longest; length++) {
+                tryRows(length);
             }
         }
 
@@ -1001,10 +1000,8 @@ public final class CharadePost {
             return k >= 0 && k < howMany(w) && k < LONGEST_ROW ? signs[w * LONGEST_ROW + k] : NONE;
         }
 
-        private void start(Board board, Scene on, int a) {
+        private void weighAtFirst(Board board, Scene on, int a) {
             words = Math.min(board.words(), MOST_WORDS);
-            signCount = Math.min(board.signs(), MOST_SIGNS);
-            forbiddenBits = board.forbiddenBits;
             open = 0;
             for (int w = 0; w < words; w++) {
                 lengths[w] = NONE;
@@ -1013,31 +1010,44 @@ public final class CharadePost {
                     open++;
                 }
             }
-            for (int s = 0; s < signCount; s++) {
-                for (int w = 0; w < words; w++) {
-                    factors[s * MOST_WORDS + w] = board.factor(on.cell(a, KIND), s, w, board.habit());
+        }
+
+        private void findFree(Board board, int kind) {
+            freeCount = 0;
+            for (int s = 0; s < board.signs() && s < MOST_SIGNS; s++) {
+                if (!board.isForbidden(s)) {
+                    free[freeCount] = s;
+                    for (int w = 0; w < words; w++) {
+                        factors[freeCount * MOST_WORDS + w] = board.factor(kind, s, w, board.habit());
+                    }
+                    freeCount++;
                 }
             }
         }
 
-        private void tryRows(int depth, int length, int from) {
-            if (depth >= length || depth < 0 || depth >= LONGEST_ROW) {
+        /** All rows of one length in order: the last sign that can rise does, and those behind it are alike to it. */
+        private void tryRows(int length) {
+            int last = Math.min(length, LONGEST_ROW) - 1;
+            int at = 0;
+            int next = 0;
+            for (int tried = 0; tried < MOST_ROWS && at >= 0 && next < freeCount && open > 0; tried++) {
+                for (int depth = at; depth <= last; depth++) {
+                    row[depth] = next;
+                    multiply(depth, next);
+                }
                 judge(length);
-                return;
-            }
-            for (int s = from; s < signCount && open > 0; s++) {
-                if ((forbiddenBits >> s & 1) == 0) {
-                    row[depth] = s;
-                    multiply(depth, s);
-                    tryRows(depth + 1, length, s);
+                at = last;
+                while (at >= 0 && row[at] + 1 >= freeCount) {
+                    at--;
                 }
+                next = at >= 0 ? row[at] + 1 : 0;
             }
         }
 
-        private void multiply(int depth, int s) {
+        private void multiply(int depth, int place) {
             int from = depth * MOST_WORDS;
             int to = from + MOST_WORDS;
-            int by = s * MOST_WORDS;
+            int by = place * MOST_WORDS;
             if (from < 0 || to + words > weights.length || by < 0 || by + words > factors.length) {
                 return;
             }
@@ -1053,7 +1063,7 @@ public final class CharadePost {
             }
             lengths[best] = length;
             for (int k = 0; k < length && k < LONGEST_ROW; k++) {
-                signs[best * LONGEST_ROW + k] = row[k];
+                signs[best * LONGEST_ROW + k] = free[row[k]];
             }
             open--;
         }
@@ -1102,11 +1112,11 @@ public final class CharadePost {
         }
 
         int actorAt(int i) {
-            return i >= 0 && i < used ? actors[i] : 0;
+            return i >= 0 && i < used && i < MOST_ACTORS ? actors[i] : 0;
         }
 
         int wordAt(int j) {
-            return j >= 0 && j < used ? words[j] : 0;
+            return j >= 0 && j < used && j < MOST_ACTORS ? words[j] : 0;
         }
 
         void setCost(int i, int j, int cost) {
@@ -1116,11 +1126,12 @@ public final class CharadePost {
         }
 
         int total() {
-            return least[(1 << used) - 1];
+            int all = (1 << used) - 1;
+            return all >= 0 && all < least.length ? least[all] : 0;
         }
 
         int wordFor(int a) {
-            for (int i = 0; i < used; i++) {
+            for (int i = 0; i < used && i < MOST_ACTORS; i++) {
                 if (actors[i] == a) {
                     return wordAt(dealt[i]);
                 }
@@ -1130,11 +1141,11 @@ public final class CharadePost {
 
         void settle() {
             least[0] = 0;
-            for (int left = 1; left < 1 << used; left++) {
+            for (int left = 1; left < 1 << used && left < least.length; left++) {
                 least[left] = sumWith(left, firstOfBest(left));
             }
             int left = (1 << used) - 1;
-            for (int i = 0; i < used; i++) {
+            for (int i = 0; i < used && i < MOST_ACTORS; i++) {
                 dealt[i] = firstOfBest(left);
                 left &= ~(1 << dealt[i]);
             }
@@ -1184,13 +1195,13 @@ public final class CharadePost {
         }
 
         int actorAt(int k) {
-            return k >= 0 && k < used ? actors[k] : NONE;
+            return k >= 0 && k < used && k < MOST_ACTORS ? actors[k] : NONE;
         }
 
         int waited() {
             int sum = 0;
             int now = 0;
-            for (int i = 0; i < used; i++) {
+            for (int i = 0; i < used && i < MOST_ACTORS; i++) {
                 sum += now;
                 now += minutes[i];
             }

@@ -726,7 +726,7 @@ public final class ModelRuns {
             text.append('a').append(r.nextInt(4)).append(',').append(r.nextInt(words)).append(',');
             text.append(r.nextInt(r.nextBoolean() ? 10 : 60)).append(';');
         }
-        int likenesses = r.nextInt(6);
+        int likenesses = r.nextInt(7);
         int others = r.nextInt(5);
         for (int i = 0; i < likenesses + others && text.length() < 180; i++) {
             String item = randomItem(r, words);

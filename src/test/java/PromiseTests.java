@@ -407,6 +407,21 @@ public final class PromiseTests {
         due(13, "no other does", x.count(8), 1);
     }
 
+    private static void undoStepByStep() {
+        CharadePost x = new CharadePost();
+        for (int n = 0; n < 5; n++) {
+            x.show(0, n);
+            x.show(3, n + 1);
+        }
+        for (int signs = 9; signs >= 2; signs--) {
+            x.undo();
+            due(13, "signs of the first after " + (10 - signs), x.actor(0, 3), (signs + 1) / 2);
+            due(13, "signs of the last after " + (10 - signs), x.actor(3, 3), signs / 2);
+            due(13, "his latest sign", x.shown(3, signs / 2 - 1), signs / 2);
+        }
+        due(13, "the two first ones stay", x.undo(), NO);
+    }
+
     private static void undoOfPay() {
         CharadePost x = laid("w2,a;r3;a0,0,9;");
         x.show(0, 0);
@@ -594,6 +609,48 @@ public final class PromiseTests {
         due(18, "a likeness to it alone", x.tells(0), 9);
     }
 
+    private static void tellsByFractions() {
+        CharadePost x = laid("x0;x1;x2;x3;x4;x5;w3,ab;w2,ab;a0,1,5;a0,0,5;");
+        due(18, "the first sign takes all weight, the second does not", x.tells(0), 7);
+        due(18, "nor of the other", x.tells(1), 7);
+        x = laid("w1,ab;w1,a;h3,4;a0,0,9;");
+        due(18, "1 of 1 is above 4 of 5", x.tells(0), 7);
+        x = laid("w1,ab;w1,ac;w5,d;h3,4;a0,0,9;x1;");
+        due(18, "1 of 2 is above 4 of 13", x.tells(0), 7);
+        x = laid("w1,ab;w1,ac;w5,d;h3,4;a0,0,9;x1;x7;");
+        due(18, "4 of 13", x.tells(0), 0);
+        x = laid("w9,aa;w9,bb;w9,cc;h5,4;l1;l0;a2,0,9;x6;x7;x8;");
+        due(18, "a smuggler's likeness is above his part", x.tells(0), 10);
+        x.guess(0);
+        x.change(0, 0);
+        due(18, "through", x.tells(0), NO);
+        x = laid("w2,a;w9,b;w1,c;a0,1,9;a0,2,9;x0;x6;");
+        x.guess(1);
+        due(18, "what was guessed weighs nothing", x.tells(1), 2);
+        x.change(0, 1);
+        due(18, "he acts for what was guessed at him: the lowest", x.tells(1), 1);
+    }
+
+    /** 15 signs are the most that there can be, and three of the last one is the last row of all. */
+    private static void sixLikenesses() {
+        CharadePost x = laid("w9,a;w9,a;w1,a;l01;l01;l01;l01;l01;l2;h2,1;a0,2,9;a1,2,9;a3,2,9;x0;");
+        due(31, "15 signs", x.count(1), 15);
+        due(6, "in the sixth", x.word(2, 3), 32);
+        due(6, "in the five ahead", x.word(1, 3), 31);
+        due(7, "the 15th", x.forbidden(14), 0);
+        due(7, "no 16th", x.forbidden(15), BAD);
+        due(17, "2 times 2 times 2 is below 9", x.fewest(0, 2, 0), NONE);
+        fewestRow(x, 2, 2, 14, 14, 14);
+        due(18, "the 15th tells most", x.tells(2), 14);
+        due(10, "the 15th is shown", x.show(2, 14), 1);
+        due(14, "by 3", x.weight(2, 2), 3);
+        fewestRow(x, 2, 2, 14, 14);
+        due(10, "no 16th to show", x.show(2, 15), BAD);
+        due(21, "all likenesses part them", x.parted(0, 2), 63 << 9);
+        due(26, "the last is too rare for a plain one", x.wants(0), 1);
+        due(26, "an old hand can have it", x.wants(2), 5);
+    }
+
     private static void send() {
         CharadePost x = new CharadePost();
         due(19, "how many", x.send(-1), 4);
@@ -627,6 +684,25 @@ public final class PromiseTests {
         due(19, "plain acts for the second", x.send(0), 1);
         due(19, "the smuggler for the rare one", x.send(1), 2);
         due(19, "the child for the common one", x.send(2), 0);
+        x.change(0, 2);
+        due(19, "as dealt out now", x.send(-1), 2);
+        due(19, "of two that come to 2, that by his own word", x.send(0), 0);
+        x.show(0, 0);
+        due(19, "without the first: smuggler 1, child 1", x.send(-1), 2);
+        due(19, "nothing for the first", x.send(0), NONE);
+        due(19, "the smuggler for the rare one", x.send(1), 2);
+        due(19, "the child for the second", x.send(2), 1);
+    }
+
+    /** The smuggler reaches the rare word by fewer signs, whatever the place of those who are not dealt out to. */
+    private static void sendWithoutTheFirst() {
+        CharadePost x = laid("w9,a;w1,b;x6;x7;x8;h5,3;a3,0,9;a2,0,9;a0,1,9;");
+        due(19, "three: 0, 0 and the rare one by 2", x.send(-1), 2);
+        x.show(0, 0);
+        due(19, "smuggler 2, plain 0", x.send(-1), 2);
+        due(19, "the smuggler acts for the rare one", x.send(1), 1);
+        due(19, "the plain one for the common one", x.send(2), 0);
+        due(19, "nothing for the first", x.send(0), NONE);
     }
 
     private static void queue() {
@@ -906,6 +982,7 @@ public final class PromiseTests {
         guess();
         change();
         undo();
+        undoStepByStep();
         undoOfPay();
         weight();
         weightOfThoseWhoAreGone();
@@ -914,8 +991,11 @@ public final class PromiseTests {
         fewest();
         fewestFirst();
         tells();
+        tellsByFractions();
+        sixLikenesses();
         send();
         sendBetter();
+        sendWithoutTheFirst();
         queue();
         parted();
         most();
