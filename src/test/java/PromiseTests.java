@@ -3,36 +3,21 @@
  * Every line that fails tells its promise.
  */
 public final class PromiseTests {
-    private static final int BAD = -1, NO = -2, FULL = -3, NONE = -4;
-    private static final int LOW = Integer.MIN_VALUE, HIGH = Integer.MAX_VALUE;
+    private static final int BAD = Checks.BAD, NO = Checks.NO, FULL = Checks.FULL, NONE = Checks.NONE;
+    private static final int LOW = Checks.LOW, HIGH = Checks.HIGH;
     /** Two words that a part, a likeness or a length can tell; the heavier is the one not acted for. */
     private static final String TWO = "w2,a;w3,bc;l0;h3,2;r2;a0,0,50;";
-    private static int wrong = 0;
-    private static int made = 0;
 
     private static void due(int promise, String call, long got, long want) {
-        made++;
-        if (got != want) {
-            wrong++;
-            System.out.println("promise " + promise + ": " + call + " answered " + got + ", due is " + want);
-        }
+        Checks.due("promise " + promise, call, got, want);
     }
 
     private static CharadePost written(String text) {
-        CharadePost x = new CharadePost();
-        for (int i = 0; i < text.length(); i++) {
-            x.write(text.charAt(i));
-        }
-        return x;
+        return Checks.written(text);
     }
 
     private static CharadePost laid(String text) {
-        CharadePost x = written(text);
-        if (x.lay() < 1) {
-            wrong++;
-            System.out.println("could not be laid: " + text);
-        }
-        return x;
+        return Checks.laid(text);
     }
 
     private static void newObject() {
@@ -1007,9 +992,6 @@ public final class PromiseTests {
         season();
         keepAndBack();
         count();
-        System.out.println("PromiseTests: " + made + " answers, " + wrong + " wrong");
-        if (wrong > 0) {
-            System.exit(1);
-        }
+        Checks.finish("PromiseTests");
     }
 }
