@@ -1063,9 +1063,13 @@ public final class CharadePost {
             }
             lengths[best] = length;
             for (int k = 0; k < length && k < LONGEST_ROW; k++) {
-                signs[best * LONGEST_ROW + k] = free[row[k]];
+                signs[best * LONGEST_ROW + k] = freeAt(row[k]);
             }
             open--;
+        }
+
+        private int freeAt(int place) {
+            return place >= 0 && place < freeCount && place < MOST_SIGNS ? free[place] : NONE;
         }
 
         private int heaviest(int length) {

@@ -93,10 +93,7 @@ public final class RefusalTests {
     private static CharadePost made() {
         CharadePost x = Checks.run("made", text, before);
         if (!typed.isEmpty()) {
-            x.wipe();
-        }
-        for (char c : typed.toCharArray()) {
-            x.write(c);
+            type(x, typed);
         }
         return x;
     }
@@ -248,6 +245,37 @@ public final class RefusalTests {
         due(Checks.BAD, "write 31", "write 127", "write LOW");
     }
 
+    private static void type(CharadePost x, String letters) {
+        x.wipe();
+        for (char c : letters.toCharArray()) {
+            x.write(c);
+        }
+    }
+
+    /** Of what was laid, or read for its FAULT alone, ahead of the post that stands now, nothing is left. */
+    private static void laidOverOthers() {
+        String[] posts = {"w1,a;a0,0,9;", "w3,b;w2,ca;l1;a2,1,5;a0,0,7;", "w9,f;".repeat(3) + "h2,2;r1;x0;l02;a1,2,3;",
+            "x0;x1;x2;x3;x4;x5;x6;x7;x8;w1,a;w2,b;a0,0,9;"};
+        String spoilt = "w9,abc;w9,d;l0;l01;l1;x0;x6;x9;h5,4;r9;a3,1,99;a2,0,77;a1,1,55;?";
+        for (String post : posts) {
+            from(post, "", "");
+            for (int times = 1; times <= 3; times++) {
+                for (String view : VIEWS) {
+                    CharadePost asked = Checks.run("made", ALL_STANDINGS, TO_ALL_STANDINGS + "; fewest 4 0 0 = 1");
+                    for (int n = 0; n < times; n++) {
+                        if (n == 1) {
+                            type(asked, spoilt);
+                            Checks.due("FAULT", spoilt, asked.fault(), spoilt.length() - 1);
+                        }
+                        type(asked, post);
+                        asked.lay();
+                    }
+                    alike("what was laid ahead of it", asked, made(), view);
+                }
+            }
+        }
+    }
+
     private static void whatOnlyAsks() {
         String[] calls = {"fault", "word 0 0", "forbidden 0", "actor 0 5", "shown 0 0", "weight 0 0", "likely 0 0 1", "next 0", "next 3", "fewest 0 1 0",
             "fewest 3 2 1", "fewest 4 0 0", "tells 0", "tells 3", "tells 4", "send -1", "send 0", "send 4", "queue -1", "queue 0", "queue 1", "parted 0 1",
@@ -268,6 +296,7 @@ public final class RefusalTests {
         inAllStandings();
         withNothing();
         textsThatCannotBeLaid();
+        laidOverOthers();
         whatOnlyAsks();
         Checks.finish("RefusalTests");
     }

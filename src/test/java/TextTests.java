@@ -304,6 +304,7 @@ public final class TextTests {
             Checks.due(where, "again count " + what, x.count(what), counts[what]);
         }
         Checks.due(where, "again shown", x.shown(0, 0), NONE);
+        Checks.due(where, "again forbidden 7", x.forbidden(7), 0);
     }
 
     public static void main(String[] args) {
