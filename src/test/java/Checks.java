@@ -27,6 +27,11 @@ final class Checks {
         }
     }
 
+    /** How many answers were held against what is due so far. */
+    static int made() {
+        return made;
+    }
+
     static CharadePost written(String text) {
         CharadePost x = new CharadePost();
         for (int i = 0; i < text.length(); i++) {
@@ -64,7 +69,7 @@ final class Checks {
         return x;
     }
 
-    private static int number(String told) {
+    static int number(String told) {
         switch (told) {
             case "BAD": return BAD;
             case "NO": return NO;
